@@ -225,25 +225,12 @@ public final class NationBooks {
 
     public int open() {
         tables.settleAll();
-        int number = 0;
-        for (int i = 0; i < LANDS * PRODUCTS * QUARTERS; i++) {
-            int line = i / QUARTERS;
-            if (tables.isOpen(line / PRODUCTS, line % PRODUCTS, i % QUARTERS)) {
-                number++;
-            }
-        }
-        return number;
+        return tables.howManyOpen();
     }
 
     public int broken() {
         tables.settleAll();
-        int number = 0;
-        for (int code = CELLS; code < CODES; code++) {
-            if (tables.isBroken(code)) {
-                number++;
-            }
-        }
-        return number;
+        return tables.howManyBroken();
     }
 
     public int breaks(int i) {
@@ -251,16 +238,7 @@ public final class NationBooks {
             return BAD;
         }
         tables.settleAll();
-        int ahead = i;
-        for (int code = CELLS; code < CODES; code++) {
-            if (tables.isBroken(code)) {
-                if (ahead == 0) {
-                    return code;
-                }
-                ahead--;
-            }
-        }
-        return NONE;
+        return tables.findBroken(i);
     }
 
     // ---- prices
@@ -629,8 +607,8 @@ public final class NationBooks {
         for (int what = 0; what < 8; what++) {
             h = 31 * h + count(what);
         }
-        h = 31 * h + open();
-        h = 31 * h + broken();
+        h = 31 * h + tables.howManyOpen();
+        h = 31 * h + tables.howManyBroken();
         for (int column = 0; column < COLUMNS; column++) {
             for (int quarter = 0; quarter < QUARTERS; quarter++) {
                 h = 31 * h + tables.sumOf(NONE, NONE, column, quarter);
@@ -711,11 +689,11 @@ public final class NationBooks {
     }
 
     private static int cellCode(int land, int product, int column, int quarter) {
-        return lineOf(land, product, column) * QUARTERS + quarter;
+        return ((land * PRODUCTS + product) * COLUMNS + column) * QUARTERS + quarter;
     }
 
     private static int annualCode(int land, int product, int column, int year) {
-        return CELLS + lineOf(land, product, column) * YEARS + year;
+        return CELLS + ((land * PRODUCTS + product) * COLUMNS + column) * YEARS + year;
     }
 
     private static boolean isAnnual(int code) {
@@ -943,6 +921,7 @@ public final class NationBooks {
         final boolean[] isSettled = new boolean[LANDS * PRODUCTS * YEARS];
         final int[] said = new int[CODES];
         final int[] weight = new int[CODES];
+        final int[] cost = new int[COLUMNS];
         final long[] bent = new long[CELLS];
         final long[] closed = new long[CELLS];
         int rule = 0;
@@ -1030,10 +1009,11 @@ public final class NationBooks {
         }
 
         private void close(int land, int product, int quarter) {
+            reckonCosts(land, product, quarter);
             if (rule == 0) {
-                shareToCheapest(land, product, quarter);
+                shareToCheapest();
             } else {
-                shareByCost(land, product, quarter);
+                shareByCost();
             }
             parts.deal(gapOf(land, product, quarter), COLUMNS);
             for (int column = 0; column < COLUMNS; column++) {
@@ -1043,15 +1023,23 @@ public final class NationBooks {
             }
         }
 
-        private void shareToCheapest(int land, int product, int quarter) {
+        /** A cost is at least 1: 0 stands for a fixed column, which cannot be moved at any cost. */
+        private void reckonCosts(int land, int product, int quarter) {
+            int year = quarter / YEAR_QUARTERS;
+            for (int column = 0; column < COLUMNS; column++) {
+                int cell = cellCode(land, product, column, quarter);
+                int annual = annualCode(land, product, column, year);
+                boolean isFixed = fixed[lineOf(land, product, column)];
+                cost[column] = isFixed ? 0 : weight[cell] + weight[annual] + 1;
+            }
+        }
+
+        private void shareToCheapest() {
             int cheapest = NONE;
-            int leastCost = 0;
             for (int column = 0; column < COLUMNS; column++) {
                 parts.share[column] = 0;
-                int cost = costOf(land, product, column, quarter);
-                if (!fixed[lineOf(land, product, column)] && (cheapest == NONE || cost < leastCost)) {
+                if (cost[column] > 0 && (cheapest == NONE || cost[column] < cost[cheapest])) {
                     cheapest = column;
-                    leastCost = cost;
                 }
             }
             if (cheapest != NONE) {
@@ -1059,18 +1047,10 @@ public final class NationBooks {
             }
         }
 
-        private void shareByCost(int land, int product, int quarter) {
+        private void shareByCost() {
             for (int column = 0; column < COLUMNS; column++) {
-                int cost = costOf(land, product, column, quarter);
-                boolean isFree = !fixed[lineOf(land, product, column)] && cost > 0;
-                parts.share[column] = isFree ? COST_SHARES / cost : 0;
+                parts.share[column] = cost[column] > 0 ? COST_SHARES / cost[column] : 0;
             }
-        }
-
-        private int costOf(int land, int product, int column, int quarter) {
-            int cell = cellCode(land, product, column, quarter);
-            int annual = annualCode(land, product, column, quarter / YEAR_QUARTERS);
-            return weight[cell] + weight[annual] + 1;
         }
 
         long gapOf(int land, int product, int quarter) {
@@ -1143,6 +1123,39 @@ public final class NationBooks {
             }
             return weight[annual] > 0 && sum != said[annual];
         }
+
+        int howManyOpen() {
+            int number = 0;
+            for (int land = 0; land < LANDS; land++) {
+                for (int product = 0; product < PRODUCTS; product++) {
+                    for (int quarter = 0; quarter < QUARTERS; quarter++) {
+                        number += isOpen(land, product, quarter) ? 1 : 0;
+                    }
+                }
+            }
+            return number;
+        }
+
+        int howManyBroken() {
+            int number = 0;
+            for (int code = CELLS; code < CODES; code++) {
+                number += isBroken(code) ? 1 : 0;
+            }
+            return number;
+        }
+
+        int findBroken(int i) {
+            int ahead = i;
+            for (int code = CELLS; code < CODES; code++) {
+                if (isBroken(code)) {
+                    if (ahead == 0) {
+                        return code;
+                    }
+                    ahead--;
+                }
+            }
+            return NONE;
+        }
     }
 
     /** Volumes and their chains. Where a product may be NONE, all products are meant. */
@@ -1209,7 +1222,7 @@ public final class NationBooks {
                 long before = valueOf(product, column, q - 1, year);
                 if (before > 0) {
                     long growth = cut(ratio(valueOf(product, column, q, year), before), MOST_GROWTH);
-                    chain = cut(Math.floorDiv(chain * growth, MILLION), MOST_CHAIN);
+                    chain = cut(chained(growth, chain), MOST_CHAIN);
                 }
             }
             return chain;
@@ -1231,17 +1244,16 @@ public final class NationBooks {
             return parts.part[product];
         }
 
-        private long madeOf(int product, int column, int quarter) {
-            long first = valueOf(product, column, 0, 0);
-            return Math.floorDiv(first * chainOf(product, column, quarter), MILLION);
-        }
-
         long apartOf(int column, int quarter) {
             long sum = 0;
             for (int p = 0; p < PRODUCTS; p++) {
-                sum += madeOf(p, column, quarter);
+                sum += chained(valueOf(p, column, 0, 0), chainOf(p, column, quarter));
             }
-            return sum - madeOf(NONE, column, quarter);
+            return sum - chained(valueOf(NONE, column, 0, 0), chainOf(NONE, column, quarter));
+        }
+
+        private static long chained(long first, long chain) {
+            return Math.floorDiv(first * chain, MILLION);
         }
     }
 
