@@ -229,6 +229,25 @@ public final class PromisesTest {
         due("a source counts once", x.weight(0), 6);
     }
 
+    /** The last source in the last release counts as any other, and so does the first of 80 rows of one code. */
+    private static void lastSource() {
+        NationBooks x = begin(10);
+        x.row(9, 5, 40, 9);
+        x.row(9, 5, 30, 3);
+        due("said", x.said(5), 40);
+        due("bent", x.bent(5), 40);
+        due("counts", x.rowIs(0, 4), 1);
+        due("revision from it", x.revision(5, 3, 9), 10);
+        due("revision to it", x.revision(5, 2, 3), 30);
+        while (x.count(0) < 80) {
+            x.row(9, 5, 20, 1);
+        }
+        due("behind all others", x.said(5), 40);
+        due("a step of the oldest row", x.steps(5, 8, 9), 1);
+        promise = 11;
+        due("weight", x.weight(5), 1);
+    }
+
     private static void bent() {
         NationBooks x = begin(12);
         rows(x, 0, 10, 20);
@@ -275,6 +294,13 @@ public final class PromisesTest {
         due("-1", x.shape(-1), BAD);
         x.asOf(0);
         due("as of then", x.shape(577), 70);
+        rows(x, 0, 1, 2, 3, 4);
+        due("the quarters are said, it is not", x.shape(576), NOT);
+        rows(x, 576, 20);
+        due("of its own year alone", x.shape(576), 10);
+        rows(x, 9, 1, 2, 3);
+        rows(x, 578, 20);
+        due("the first quarter is not said", x.shape(578), NOT);
     }
 
     private static void fix() {
@@ -373,6 +399,11 @@ public final class PromisesTest {
         // cost 17: 2520 by 17 is cut to 148; of 2668 parts are -55.47 and -944.53, the first has the greater rest
         due("a cut share", x.closed(36), 1000 - 55);
         due("a cut share", x.closed(60), -945);
+        x = begin(17);
+        x.rule(1);
+        fixAll(x, 1, 0, 2, 3, 4, 5);
+        rows(x, x.code(1, 0, 0, 4), 30000);
+        due("shares 1260 and 2520", x.closed(x.code(1, 0, 0, 4)), 20000);
     }
 
     private static void moved() {
@@ -382,6 +413,8 @@ public final class PromisesTest {
         x.rule(1);
         due("rule 1", x.moved(0, 0, 0), 7);
         due("nothing to move", x.moved(1, 0, 0), 0);
+        rows(x, 575, 9);
+        due("of the last", x.moved(1, 3, 11), 9);
         fixAll(x, 0, 0, 0, 1, 2, 3, 4, 5);
         due("open", x.moved(0, 0, 0), NOT);
         due("all fixed, no gap: not open", x.moved(0, 0, 1), 0);
@@ -541,6 +574,9 @@ public final class PromisesTest {
         due("quarter 0", x.growth(0, 0, 0), BAD);
         due("quarter 12", x.growth(0, 0, 12), BAD);
         due("quarter 11", x.growth(0, 0, 11), -1);
+        fixAll(x, 1, 3, 5);
+        rows(x, 574, 10, 15);
+        due("product 3, quarter 11", x.growth(3, 5, 11), 1500000);
     }
 
     private static void chain() {
@@ -579,6 +615,12 @@ public final class PromisesTest {
         rows(x, 0, 100000, 100000, 100000);
         rows(x, 576, 0);
         due("chain cut below", x.chain(0, 0, 3), -10000000);
+        x = begin(27);
+        fixAll(x, 0, 0, 0);
+        rows(x, 0, 100000, 100, 100);
+        rows(x, 576, 0);
+        due("growth of -1002", x.growth(0, 0, 3), -1002000000);
+        due("is cut to -1000", x.chain(0, 0, 3), -1000000);
         x = begin(27);
         fixAll(x, 0, 0, 0);
         x.price(0, 0, 10);
@@ -653,6 +695,8 @@ public final class PromisesTest {
         due("of like rests the first", x.part(1, 0, 1), 333334);
         due("not the second", x.part(2, 0, 1), 333333);
         due("product 0 without", x.part(0, 0, 1), 0);
+        rows(x, 226, 4, 5);
+        due("quarter 11", x.part(3, 0, 11), 250000);
     }
 
     private static void apart() {
@@ -693,6 +737,16 @@ public final class PromisesTest {
         due("product", x.trade(0, 4, 0, 0, 0), -2);
         due("quarter", x.trade(0, 0, 12, 0, 0), -2);
         due("nothing was said", x.trade(0, 0, 0, 0, 0), -1);
+        for (int round = 0; round < 2; round++) {
+            for (int i = 0; i < 192; i++) {
+                int was = round == 0 ? -1 : 1000 + i;
+                x.trade(i / 96, i / 24 % 4, i / 2 % 12, i % 2, round == 0 ? -1 : was);
+            }
+            for (int i = 0; i < 192; i++) {
+                int was = x.trade(i / 96, i / 24 % 4, i / 2 % 12, i % 2, 1000 + i);
+                due("each for itself " + i, was, round == 0 ? -1 : 1000 + i);
+            }
+        }
         promise = 31;
         due("first", x.precise(1, 9), 1);
         due("then", x.precise(1, 1), 9);
@@ -886,6 +940,10 @@ public final class PromisesTest {
         due("without law 0", x.unkept(6), 1);
         due("quarter 12", x.unkept(12), -2);
         due("quarter -1", x.unkept(-1), -2);
+        x.repeal(1);
+        type(x, 3, "c123=8");
+        x.row(0, x.code(1, 2, 3, 6), 8, 1);
+        due("of what is told now", x.unkept(6), 0);
         due("none", new NationBooks().unkept(0), 0);
     }
 
@@ -913,6 +971,7 @@ public final class PromisesTest {
         due("steps", x.steps(600, 0, 9), 3);
         due("from is not in it", x.steps(600, 3, 9), 1);
         due("to is", x.steps(600, 0, 3), 2);
+        due("the one behind from is", x.steps(600, 2, 4), 2);
         due("none", x.steps(600, 5, 9), 0);
         due("code", x.steps(720, 0, 9), -2);
         due("from", x.steps(0, -1, 9), -2);
@@ -935,6 +994,9 @@ public final class PromisesTest {
         due("to", x.step(600, 0, 10, 0, 0), BAD);
         x.row(1, 600, 20, 3);
         due("two rows of a source in a release are one step", x.steps(600, 0, 9), 3);
+        x.row(0, 600, 20, 4);
+        due("behind to there is none", x.steps(600, 0, 3), 2);
+        due("behind to there is none", x.step(600, 0, 3, 2, 0), BAD);
     }
 
     private static void led() {
@@ -1146,7 +1208,8 @@ public final class PromisesTest {
         x.column(4, 1);
         fixAll(x, 1, 1, 0, 1, 2);
         x.stock(0, 0, 0);
-        type(x, 1, "12345");
+        type(x, 0, "123");
+        type(x, 1, "12");
         type(x, 3, "12");
         x.lose(1);
         long[] counts = {3, 1, 6, 1, 5, 3, 1, 7, 1};
@@ -1155,6 +1218,10 @@ public final class PromisesTest {
         }
         due("what 9", x.count(9), -2);
         due("what -1", x.count(-1), -2);
+        x.asOf(4);
+        due("row 0 counts then", x.count(1), 1);
+        x.asOf(7);
+        due("rows 1 and 2 count then", x.count(1), 2);
     }
 
     private static long folded(NationBooks x) {
@@ -1197,7 +1264,13 @@ public final class PromisesTest {
         rows(x, x.code(1, 0, 0, 0), 8);
         x.price(0, 6, 77);
         x.stock(2, 2, 2);
-        due("open", x.open(), 1);
+        for (int c = 0; c < 6; c++) {
+            x.column(c, 1);
+            rows(x, x.code(0, 2, c, 9), 10 + c, 30 - c, 50);
+            x.fix(0, 2, c, true);
+        }
+        due("chains at 11", x.chain(2, 0, 11) - x.chain(2, 0, 10), 4999998 - 3000000);
+        due("open", x.open(), 4);
         due("broken", x.broken(), 1);
         due("folded", x.digest(), folded(x));
         long before = x.digest();
@@ -1215,6 +1288,7 @@ public final class PromisesTest {
         asOf();
         column();
         said();
+        lastSource();
         bent();
         shape();
         fix();
