@@ -982,6 +982,22 @@ public final class EdgesOfTermsTest extends Edges {
         due("from below 0 it stays", x.chain(2, 0, 1), 1000000);
     }
 
+    /** The document does not say what a growth of -1 millionth is; it is read as a growth, not as NONE. */
+    @Says(at = "Terms 4", words = "where GROWTH is NONE it stays.")
+    static void aGrowthOfMinus1IsNotNone(NationBooks x) {
+        // quarter 2: 100000 at 10, a volume of 1000000; quarter 3: the year's rest -1 at 1000, a volume of -0.1
+        fix(x, 0, 0, 0);
+        x.price(0, 2, 10);
+        x.price(0, 3, 1000);
+        rows(x, 0, 0, 1, 100000);
+        rows(x, 576, 100000);
+        due("volume", x.volume(0, 0, 3), -1);
+        due("growth", x.growth(0, 0, 3), -1);
+        due("chain at 2, cut", x.chain(0, 0, 2), 10000000);
+        due("chain at 3", x.chain(0, 0, 3), -10);
+        due("there is a part", x.part(0, 0, 3), -1000001);
+    }
+
     @Says(at = "Terms 4", words = "PART of a PRODUCT in GROWTH: (its AT PRICES at q less at q - 1) by that lower sum in millionths, rounded down;")
     static void partsOfGrowthAreRoundedDown(NationBooks x) {
         // three fall by 1 of 3 in all: -333333.3, rounded down -333334; -1000000 in all, so 2 are left
@@ -1399,6 +1415,15 @@ public final class EdgesOfTermsTest extends Edges {
         faultDue("1=c000-7*c140", 10);
     }
 
+    /** Whether there is such a c is read to be asked when its three figures stand. */
+    @Says(at = "Terms 6", words = "or of the first figure of a c that there is not.")
+    static void anUnfinishedCellIsAFaultWhereItEnds(NationBooks x) {
+        faultDue("c9", 2);
+        faultDue("c9x=0", 2);
+        faultDue("c09=0", 3);
+        faultDue("1=5*c99", 7);
+    }
+
     @Says(at = "Terms 6", words = "LEFT OVER in a QUARTER: the left sum less the right one.")
     static void leftOverIsLeftLessRight(NationBooks x) {
         law(x, 0, "1-2+4=8-16+32");
@@ -1674,6 +1699,7 @@ public final class EdgesOfTermsTest extends Edges {
         // at first 100; then with 30 of source 1: 65; with 10 of source 3: 46.7; then 40 for 10: 56.7
         tellReleases(x);
         x.asOf(0);
+        due("revision names its own releases", x.revision(50, 0, 9), 57 - 100);
         long[] adds = {65 - 100, 47 - 65, 57 - 47};
         for (int i = 0; i < 3; i++) {
             due("step " + i, x.step(50, 0, 9, i, 0), adds[i]);
