@@ -30,8 +30,10 @@ abstract class Edges {
     static final long LEAST = Long.MIN_VALUE;
     static final long BAD = LEAST + 2, NOT = LEAST + 3;
 
-    /** One object for all, so that what it tells is reckoned once. */
+    /** One object of each for all tests, so that what it tells is reckoned once. */
+    static final Telling NOTHING = x -> { };
     static final Telling RANGES = Edges::tellRanges;
+    static final Telling SHEETS = Edges::tellSheets;
 
     private static final Map<String, Method> METHODS = methods();
     private static String current = "";
@@ -111,6 +113,12 @@ abstract class Edges {
         }
     }
 
+    /** Values of column 0 in land 0 that stay as said, from quarter 0 on. */
+    static void said(NationBooks x, int product, int... values) {
+        fix(x, 0, product, 0);
+        rows(x, cell(0, product, 0, 0), values);
+    }
+
     static void fix(NationBooks x, int land, int product, int... columns) {
         for (int column : columns) {
             x.fix(land, product, column, true);
@@ -139,6 +147,13 @@ abstract class Edges {
         for (int i = 0; i < items.length; i++) {
             x.put(s, form, i, items[i]);
         }
+    }
+
+    /** Sheet 0 is lost; 1 and 3 are of like forms. */
+    static void tellSheets(NationBooks x) {
+        sheet(x, 1, 1, 11, 12, 13, 14);
+        sheet(x, 2, 2, 21, 22, 23);
+        sheet(x, 3, 1, 31, 32);
     }
 
     static void itemsDue(NationBooks x, int s, int form, int... items) {

@@ -2,14 +2,6 @@ import java.io.IOException;
 
 /** The edges that the promises name, each promise by itself. */
 public final class EdgesOfPromisesTest extends Edges {
-    private static final Telling NOTHING = x -> { };
-
-    /** Values of column 0 in land 0 that stay as said, from quarter 0 on. */
-    private static void said(NationBooks x, int product, int... values) {
-        fix(x, 0, product, 0);
-        rows(x, cell(0, product, 0, 0), values);
-    }
-
     // ---- sources, rows
 
     @Says(at = "Promise 1", words = "No ROWS;")
@@ -914,14 +906,6 @@ public final class EdgesOfPromisesTest extends Edges {
     }
 
     // ---- sheets
-
-    private static void tellSheets(NationBooks x) {
-        sheet(x, 1, 1, 11, 12, 13, 14);
-        sheet(x, 2, 2, 21, 22, 23);
-        sheet(x, 3, 1, 31, 32);
-    }
-
-    private static final Telling SHEETS = EdgesOfPromisesTest::tellSheets;
 
     @Says(at = "Promise 49", words = "A SHEET is a new row of a FORM with n items: n.")
     static void sheetIsANewRow(NationBooks x) {

@@ -2,14 +2,6 @@ import java.io.IOException;
 
 /** The edges that the document names ahead of the promises: what words mean, and the order of refusals. */
 public final class EdgesOfTermsTest extends Edges {
-    private static final Telling NOTHING = x -> { };
-
-    /** Values of column 0 in land 0 that stay as said, from quarter 0 on. */
-    private static void said(NationBooks x, int product, int... values) {
-        fix(x, 0, product, 0);
-        rows(x, cell(0, product, 0, 0), values);
-    }
-
     // ---- What it is
 
     @Says(at = "What it is", words = "An object is used for at most 512 calls after it has been made; what later calls answer is free.")
@@ -1489,14 +1481,6 @@ public final class EdgesOfTermsTest extends Edges {
         due("the latest", x.count(8), 5);
     }
 
-    private static void tellSheets(NationBooks x) {
-        sheet(x, 1, 1, 11, 12, 13);
-        sheet(x, 2, 2, 21, 22, 23);
-        sheet(x, 3, 1, 31, 32);
-    }
-
-    private static final Telling SHEETS = EdgesOfTermsTest::tellSheets;
-
     @Says(at = "Terms 6", words = "1 NULL: the SHEET is LOST;")
     static void findingNull(NationBooks x) {
         found(SHEETS, 1, "lose", 0);
@@ -1514,7 +1498,7 @@ public final class EdgesOfTermsTest extends Edges {
 
     @Says(at = "Terms 6", words = "2 INDEX: there is no such item;")
     static void findingIndex(NationBooks x) {
-        for (int i : new int[] {-1, 3, LEAST_INT, Integer.MAX_VALUE}) {
+        for (int i : new int[] {-1, 4, LEAST_INT, Integer.MAX_VALUE}) {
             found(SHEETS, 2, "put", 1, 1, i, 5);
             found(SHEETS, 2, "get", 1, 1, i);
             found(SHEETS, 2, "copy", 1, i, 3, 0, 1);

@@ -7,7 +7,8 @@ import java.util.Random;
 
 /** Runs of seeded calls, fair and wrong ones, on the class and on the second reading of the document. */
 public final class RandomRunsTest {
-    private static final int CALLS = 512;
+    // An object is good for 512 calls; the last law, and the digest, may come behind these.
+    private static final int CALLS = 509;
     private static final long SEED = 20261116L;
     /** Each call, how often it comes, and what its arguments are. */
     private static final String[] CALLS_TOLD = {
